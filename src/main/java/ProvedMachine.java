@@ -695,7 +695,9 @@ public final class ProvedMachine {
 
         /** One way through is enough: what leads back leads to a place that was reached ahead of it. */
         void markWhatNoWayLeadsTo() {
-            Arrays.fill(reached, false);
+            for (int place = 0; place < PLACES; place++) {
+                reached[place] = false;
+            }
             for (int f = 0; f < funs; f++) {
                 reach(head(f, FIRST_PLACE));
             }
@@ -732,7 +734,7 @@ public final class ProvedMachine {
         private static final int LEVEL_UNDER = 6;
         // Of the OPS from OP_PAIR on: the level at which the grammar has them.
         private static final int[] LEVELS = {0, 1, 2, 3, 3, 4, 4, 5, 5};
-        // Of the OPS from OP_NEGATE on: TYPES of the lower VALUE (-1: one is taken), the highest, the one put.
+        // Of the OPS from OP_NEGATE on: TYPES of the lower VALUE (-1: there is none), the upper, the one put.
         private static final int[] LOWER_TYPES = {-1, -1, -1, -1, -1, -1, 2, 0, 1, 1, 0, 0, 0, 0, 0, 0};
         private static final int[] UPPER_TYPES = {0, 1, 2, 3, 3, 0, 0, 3, 1, 1, 0, 0, 0, 0, 0, 0};
         private static final int[] PUT_TYPES = {0, 1, 0, 0, 3, 2, 0, 3, 1, 1, 1, 1, 0, 0, 0, 0};
@@ -830,7 +832,7 @@ public final class ProvedMachine {
             int letter = tokens.takeName();
             if (funOf(letter) >= 0) {
                 noteName(funNamePlace);
-            } else {
+            } else if (letter >= 0 && letter < LETTERS) {
                 funOfLetter[letter] = fun;
             }
             tokens.take('(');
@@ -1015,7 +1017,7 @@ public final class ProvedMachine {
             int most = isE || level == LEVEL_LESS ? 1 : TAPE_BYTES;
             for (int i = 0; i < most; i++) {
                 int op = opBetween(tokens.kind());
-                if (op < OP_PAIR || LEVELS[op - OP_PAIR] != level) {
+                if (op < OP_PAIR || op > OP_DIVIDE || LEVELS[op - OP_PAIR] != level) {
                     return;
                 }
                 int place = tokens.place();
@@ -1187,12 +1189,14 @@ public final class ProvedMachine {
                 noteName(place);
                 return;
             }
-            variableOfLetter[letter] = number;
+            if (letter >= 0 && letter < LETTERS) {
+                variableOfLetter[letter] = number;
+            }
             program.setVariableType(fun, number, type);
             program.setHead(fun, Program.COUNT, number + 1);
         }
 
-        /** The first in the text counts, and some are found behind later ones (a CALL's NAME, the last FUN's). */
+        /** The first in the text counts: a CALL's NAME and the last FUN's are found behind later ones. */
         private void noteName(int place) {
             nameFault = nameFault < 0 ? place : Math.min(nameFault, place);
         }
@@ -1300,10 +1304,6 @@ public final class ProvedMachine {
             cells[cell] = number;
         }
 
-        private void openNotes() {
-            noted[slot & (SLOTS - 1)] = 0;
-        }
-
         // ---- STEPS, BACK
 
         /** One STEP, which is noted but not kept yet; whether it could be done. */
@@ -1311,7 +1311,7 @@ public final class ProvedMachine {
             if (isHalted()) {
                 return false;
             }
-            openNotes();
+            noted[slot & (SLOTS - 1)] = 0;
             // A later STEP that HALTS may CLEAR and is not kept itself: BACK over this one undoes that count.
             write(CLEARINGS, cells[CLEARINGS]);
             int before = cells[HEIGHT];
@@ -1665,7 +1665,6 @@ public final class ProvedMachine {
         }
 
         int clearByHand() {
-            openNotes();
             kept = 0;
             return clearHeap();
         }
@@ -1685,20 +1684,20 @@ public final class ProvedMachine {
 
         /** The OBJECTS that are held, as bits 1 to 16. */
         private int held() {
-            int held = 0;
+            int bits = 0;
             for (int i = 0; i < cells[HEIGHT]; i++) {
                 if (read(TYPES + i) >= TYPE_ROW) {
-                    held |= chain(read(VALUES + i));
+                    bits |= chain(read(VALUES + i));
                 }
             }
             for (int f = 0; f < cells[FRAMES]; f++) {
                 for (int v = 0; v < variablesOf(f); v++) {
                     if (variableType(f, v) >= TYPE_ROW) {
-                        held |= chain(variableOf(f, v));
+                        bits |= chain(variableOf(f, v));
                     }
                 }
             }
-            return held;
+            return bits;
         }
 
         /** An OBJECT and, of a PAIR, all behind it: no list can be longer than there are OBJECTS. */

@@ -14,6 +14,7 @@ public final class PromiseTest {
         feed();
         text();
         faultsOfKind1();
+        blocksInBlocks();
         faultsByDepth();
         faultsOfKind2();
         faultsOfKind3();
@@ -37,6 +38,7 @@ public final class PromiseTest {
         printedAndResult();
         clear();
         clearingKeepsWhatIsHeld();
+        newRowsAreZeros();
         heapFull();
         proof();
         proves();
@@ -223,6 +225,15 @@ public final class PromiseTest {
         ProvedMachine x = new ProvedMachine();
         due("fault 2", x.fault(2), BEYOND);
         due("fault -1", x.fault(-1), BEYOND);
+    }
+
+    private static void blocksInBlocks() {
+        right("fun a()int{bool x=true;" + "if x{".repeat(36) + "}".repeat(36) + "}", 2 + 72 + 2);
+        right("fun a()int{bool x=true;" + "while x{".repeat(23) + "}".repeat(23) + "}", 2 + 69 + 2);
+        faulty("fun a()int{" + "if1{".repeat(57), 1, 239);
+        faulty("fun a()int{" + "if1{".repeat(45) + "}".repeat(46), 3, 11);
+        codeIs("fun a()int{bool x=true;" + "if x{".repeat(3) + "}".repeat(4), 1, 1, 21, 0, 3, 0, 23, 8, 3, 0, 23, 8,
+            3, 0, 23, 8, 27, 0, 25, 0);
     }
 
     private static void faultsByDepth() {
@@ -856,6 +867,28 @@ public final class PromiseTest {
         due("its list", y.object(2, 2), 16);
         due("that one's int", y.object(16, 1), 2);
         due("the row", y.object(1, 0), 1);
+    }
+
+    private static void newRowsAreZeros() {
+        ProvedMachine x = begun("fun a()int{while true{row r=new 2;r[0]=7;r[1]=8;}}");
+        // true, 23, 2, new, 21, r, 0, 7, 22, r, 1, 8, 22, 24 a turn.
+        x.step(16 * 14);
+        due("the first as it was", x.object(1, 10), 7);
+        x.step(4);
+        due("cleared", x.now(7), 1);
+        due("the first again", x.stack(0, false), 1);
+        due("its first number", x.object(1, 10), 0);
+        due("its second number", x.object(1, 11), 0);
+        x.back(1);
+        due("the first as it was", x.object(1, 10), 7);
+        due("its second as it was", x.object(1, 11), 8);
+        // A row in the place of a PAIR, and a PAIR in that of a row.
+        ProvedMachine y = begun("fun a()int{while true{list l=5:6:none;l=none;row r=new 1;r[0]=9;}}");
+        y.step(400);
+        for (int o = 1; o <= 16; o++) {
+            boolean row = y.object(o, 0) == 1;
+            due("what it has " + o, row ? y.object(o, 2) : y.object(o, 10), BEYOND);
+        }
     }
 
     private static void heapFull() {
