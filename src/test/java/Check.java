@@ -20,6 +20,14 @@ final class Check {
         }
     }
 
+    void same(String what, String got, String want) {
+        asked++;
+        if (!got.equals(want)) {
+            wrong++;
+            System.out.println(what + " has\n" + got + "\ndue is\n" + want);
+        }
+    }
+
     boolean isWrong() {
         return wrong != 0;
     }
@@ -52,14 +60,46 @@ final class Check {
         return x.text();
     }
 
-    /** A new object that has begun a text, which must have no FAULT. */
-    ProvedMachine begun(String text) {
+    /** A new object with the CODE of a text, which must have no FAULT. */
+    ProvedMachine with(String text) {
         ProvedMachine x = new ProvedMachine();
-        long places = read(x, text);
-        if (places < 0) {
-            due("text of " + text + " at " + x.fault(1), x.fault(0), 0);
+        if (read(x, text) < 0) {
+            due("fault of " + text + " at " + x.fault(1), x.fault(0), 0);
         }
-        due("start of " + text, x.start(), places);
         return x;
+    }
+
+    ProvedMachine begun(String text) {
+        ProvedMachine x = with(text);
+        due("start of " + text, x.start(), x.all(1));
+        return x;
+    }
+
+    void faulty(String text, int kind, int place) {
+        ProvedMachine x = new ProvedMachine();
+        due("text " + text, read(x, text), -1);
+        due("kind of " + text, x.fault(0), kind);
+        due("place of " + text, x.fault(1), place);
+    }
+
+    void right(String text, int places) {
+        ProvedMachine x = new ProvedMachine();
+        due("text " + text, read(x, text), places);
+        due("kind of " + text, x.fault(0), 0);
+        due("place of " + text, x.fault(1), -1);
+    }
+
+    /** The fault is told by the place of the @, which is no part of the text. */
+    void faultAt(int kind, String text) {
+        int at = text.indexOf('@');
+        faulty(text.substring(0, at) + text.substring(at + 1), kind, at);
+    }
+
+    /** A sheet of 32 bits with these numbers. */
+    void sheetOf(ProvedMachine x, int s, int... numbers) {
+        due("sheet", x.sheet(s, 32, numbers.length), numbers.length);
+        for (int i = 0; i < numbers.length; i++) {
+            due("put", x.put(s, i, numbers[i]), 0);
+        }
     }
 }

@@ -56,12 +56,7 @@ public final class PromiseTest {
     }
 
     private static ProvedMachine with(String text) {
-        ProvedMachine x = new ProvedMachine();
-        long places = Check.read(x, text);
-        if (places < 0) {
-            due("fault of " + text + " at " + x.fault(1), x.fault(0), 0);
-        }
-        return x;
+        return CHECK.with(text);
     }
 
     private static ProvedMachine begun(String text) {
@@ -69,30 +64,19 @@ public final class PromiseTest {
     }
 
     private static void faulty(String text, int kind, int place) {
-        ProvedMachine x = new ProvedMachine();
-        due("text " + text, Check.read(x, text), -1);
-        due("kind of " + text, x.fault(0), kind);
-        due("place of " + text, x.fault(1), place);
+        CHECK.faulty(text, kind, place);
     }
 
     private static void right(String text, int places) {
-        ProvedMachine x = new ProvedMachine();
-        due("text " + text, Check.read(x, text), places);
-        due("kind of " + text, x.fault(0), 0);
-        due("place of " + text, x.fault(1), -1);
+        CHECK.right(text, places);
     }
 
-    /** The fault is told by the place of the @, which is no part of the text. */
     private static void faultAt(int kind, String text) {
-        int at = text.indexOf('@');
-        faulty(text.substring(0, at) + text.substring(at + 1), kind, at);
+        CHECK.faultAt(kind, text);
     }
 
     private static void sheetOf(ProvedMachine x, int s, int... numbers) {
-        due("sheet", x.sheet(s, 32, numbers.length), numbers.length);
-        for (int i = 0; i < numbers.length; i++) {
-            due("put", x.put(s, i, numbers[i]), 0);
-        }
+        CHECK.sheetOf(x, s, numbers);
     }
 
     // ---- 1
