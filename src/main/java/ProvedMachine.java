@@ -58,7 +58,7 @@ public final class ProvedMachine {
     private int fed = 0;
     private final Reader reader = new Reader();
     private Program program = new Program();
-    private final Machine machine = new Machine();
+    private final Machine machine = new Machine(program);
     private boolean begun = false;
     private final Sheet[] sheets = new Sheet[SHEETS];
     private final int[] findings = new int[HALTED + 1];
@@ -1266,7 +1266,7 @@ public final class ProvedMachine {
         // No STEP changes more cells than new behind a CLEARING: OBJECTS, one OBJECT and a few.
         private static final int NOTES = 36;
 
-        private Program program = new Program();
+        private Program program;
         private final int[] cells = new int[CELLS];
         private final int[] saved = new int[CELLS];
         private final int[] noted = new int[SLOTS];
@@ -1275,6 +1275,10 @@ public final class ProvedMachine {
         private final int[] proofs = new int[SLOTS * PROOF_NUMBERS];
         private int slot = 0;
         private int kept = 0;
+
+        Machine(Program first) {
+            program = first;
+        }
 
         void begin(Program begunProgram) {
             program = begunProgram;

@@ -19,6 +19,8 @@ public final class MachineBoundaryTest {
         newObject();
         begunAnew();
         firstValues();
+        firstValuesWhereOthersWere();
+        everyOpOverAnother();
         intsThatWrap();
         division();
         comparing();
@@ -32,14 +34,17 @@ public final class MachineBoundaryTest {
         thirtyIsEnough();
         callsOfAFullStack();
         twentyPrinted();
+        allLimitsAtOnce();
         sixteenObjects();
         heapIsFull();
         heldByTheStack();
         heldByVariables();
         heldByPairs();
         heldByNoInts();
+        heldByNoSeventh();
         whatAStepTakes();
         leastFreeObject();
+        rowsBesideOthers();
         haltsChangeNothing();
         stepsOneTo400();
         backOneTo30();
@@ -188,6 +193,51 @@ public final class MachineBoundaryTest {
             due("its type", y.stack(0, true), t);
             y.step(1);
             due("result", y.result(), 0);
+        }
+    }
+
+    private static void firstValuesWhereOthersWere() {
+        ProvedMachine x = begun("fun f(int p)int{int q=4;int r=5;return p;}fun m()int{print 1+(2+(3+(4+5)));print f(6);"
+            + "return f(7);}");
+        // What was on the STACK, or in a FRAME there, is no first value.
+        for (int i = 0; i < 60 && x.now(2) < 2; i++) {
+            x.step(1);
+        }
+        due("its param", x.variable(1, 0), 6);
+        due("its second", x.variable(1, 1), 0);
+        due("its third", x.variable(1, 2), 0);
+        for (int i = 0; i < 60 && x.now(2) == 2; i++) {
+            x.step(1);
+        }
+        x.step(3);
+        due("its param", x.variable(1, 0), 7);
+        due("its second", x.variable(1, 1), 0);
+        due("its third", x.variable(1, 2), 0);
+        due("no fourth", x.variable(1, 3), BEYOND);
+    }
+
+    /** "5 to 20 take one or two and put one": over a VALUE that none of them may take. */
+    private static void everyOpOverAnother() {
+        String[] e = {"-4", "not true", "size new 3", "head(5:none)", "tail l", "new 2", "(new 3)[1]", "7:none",
+            "true or false", "true and false", "1<2", "3=3", "8+9", "8-9", "8*9", "9/4"};
+        String[] types = {"int", "bool", "int", "int", "list", "row", "int", "list", "bool", "bool", "bool", "bool", "int",
+            "int", "int", "int"};
+        long[] told = {-4, 0, 3, 5, 1, 1, 0, 1, 1, 0, 1, 1, 17, -1, 72, 2};
+        int[] taken = {1, 1, 1, 1, 1, 1, 2, 2, 2, 2, 2, 2, 2, 2, 2, 2};
+        for (int i = 0; i < e.length; i++) {
+            int op = 5 + i;
+            String list = e[i].equals("tail l") ? "list l=5:6:none;" : "";
+            ProvedMachine x = begun("fun f(int a," + types[i] + " b)int{}fun m()int{" + list + "return f(66," + e[i] + ");}");
+            for (int n = 0; n < 20 && (x.now(8) == 0 || x.code((int) x.proof(0, 0), false) != op); n++) {
+                x.step(1);
+            }
+            due("taken and put by " + op, x.proof(0, 1) - x.proof(0, 2), taken[i] - 1);
+            due("two are there behind " + op, x.now(3), 2);
+            due("the lower behind " + op, x.stack(0, false), 66);
+            due("told by " + op, x.stack(1, false), told[i]);
+            due("its type by " + op, x.stack(1, true), java.util.List.of("int", "bool", "row", "list").indexOf(types[i]));
+            x.back(1);
+            due("as ahead of " + op, x.now(3), 1 + taken[i]);
         }
     }
 
@@ -465,6 +515,51 @@ public final class MachineBoundaryTest {
         haltsAt("fun a()int{while true{print true;}}", 8, 26);
     }
 
+    /** 8 FRAMES of six variables, 30 VALUES, 20 printed and 16 OBJECTS stand side by side, and all goes on from there. */
+    private static void allLimitsAtOnce() {
+        ProvedMachine x = begun("fun f(int a,int b,int c,list d,int e,row g)int{print b;print c;if a<1{d=8:d;print 9;g[8]=a;}"
+            + "else{e=1+1*(e-0*f(a-1,b+1,c*2,a:d,e+7,new 9));}print e;return e;}"
+            + "fun m()int{return f(6,10,1,none,50,new 1);}");
+        long most = 0;
+        for (int i = 0; i < 400 && x.now(2) < 8; i++) {
+            due("a step", x.step(1), 1);
+            most = Math.max(most, x.now(3));
+        }
+        due("most on the stack", most, 30);
+        due("on the stack", x.now(3), 24);
+        due("nothing gets free", x.clear(), 0);
+        due("objects", x.now(6), 7 + 6);
+        for (int i = 0; i < 24; i++) {
+            due("stack " + i, x.stack(i, false), i % 4 < 2 ? 1 : i % 4 == 2 ? 50 + 7 * (i / 4) : 0);
+            due("stack type " + i, x.stack(i, true), 0);
+        }
+        framesAreWhole(x);
+        due("printed", x.now(4), 12);
+        x.step(2 + 2 + 4 + 4 + 2);
+        due("objects", x.now(6), 7 + 7);
+        due("the last's list", x.object((int) x.variable(7, 3), 1), 8);
+        framesAreWhole(x);
+        x.step(400);
+        due("halted by printing", x.now(0), 8);
+        long[] printed = {10, 1, 11, 2, 12, 4, 13, 8, 14, 16, 15, 32, 16, 64, 9, 92, 86, 79, 72, 65};
+        for (int i = 0; i < 20; i++) {
+            due("printed " + i, x.printed(i), printed[i]);
+        }
+        due("frames", x.now(2), 3);
+        due("the next to be printed", x.stack(4, false), 58);
+    }
+
+    private static void framesAreWhole(ProvedMachine x) {
+        for (int f = 1; f < 8; f++) {
+            due("a of frame " + f, x.variable(f, 0), 7 - f);
+            due("b of frame " + f, x.variable(f, 1), 9 + f);
+            due("c of frame " + f, x.variable(f, 2), 1 << (f - 1));
+            due("e of frame " + f, x.variable(f, 4), 43 + 7 * f);
+            due("g of frame " + f, x.object((int) x.variable(f, 5), 1), f == 1 ? 1 : 9);
+            due("no seventh of frame " + f, x.variable(f, 6), BEYOND);
+        }
+    }
+
     // ---- the heap
 
     /** "THE HEAP has OBJECTS 1 to 16", "If none is free THE HEAP is CLEARED first" */
@@ -599,6 +694,19 @@ public final class MachineBoundaryTest {
         due("free", z.clear(), 1);
     }
 
+    /** What stands behind the sixth variable of a FRAME is none of its variables. */
+    private static void heldByNoSeventh() {
+        ProvedMachine x = begun("fun z()int{}fun g(int a,int b,int c,int d,int e,int f)int{if a<1{return 0;}"
+            + "return g(0,0,0,0,0,0);}fun m()int{row r=new 1;r=new 2;return g(1,0,0,0,0,0);}");
+        for (int i = 0; i < 60 && x.now(2) < 3; i++) {
+            x.step(1);
+        }
+        due("three frames", x.now(2), 3);
+        due("the first row is held by none", x.clear(), 1);
+        due("it is free", x.object(1, 0), 0);
+        due("the second is held", x.object(2, 0), 1);
+    }
+
     /** "(what this STEP takes, too)" */
     private static void whatAStepTakes() {
         // The list that : takes is on the STACK alone.
@@ -628,6 +736,24 @@ public final class MachineBoundaryTest {
         due("its size", x.object(4, 1), 6);
         due("its int", x.object(5, 1), 7);
         due("the one ahead of it stays till it is cleared", x.object(3, 1), 3);
+    }
+
+    /** A row of 9 in a place between others leaves those as they are. */
+    private static void rowsBesideOthers() {
+        ProvedMachine x = begun("fun a()int{row a=new 9;row b=new 9;row c=new 9;a[0]=1;a[8]=2;c[0]=3;c[8]=4;b=a;b=new 9;"
+            + "b[0]=5;b[8]=6;print 1;}");
+        x.step(9 + 16 + 2);
+        due("the second is free", x.clear(), 1);
+        x.step(3 + 8);
+        long[][] want = {{1, 1, 2}, {2, 5, 6}, {3, 3, 4}};
+        for (long[] w : want) {
+            due("a row", x.object((int) w[0], 0), 1);
+            due("its size", x.object((int) w[0], 1), 9);
+            due("its first", x.object((int) w[0], 10), w[1]);
+            due("its last", x.object((int) w[0], 18), w[2]);
+        }
+        due("three", x.now(6), 3);
+        due("no fourth", x.object(4, 0), 0);
     }
 
     /** "a STEP that can't be done changes nothing": what it has found is gone over once more by hand. */

@@ -51,11 +51,13 @@ public final class TextBoundaryTest {
         faultOfTheLatest();
         whatAFaultLeaves();
         whatATextEnds();
+        textsOneAfterAnother();
         numbersOfNames();
         placesOfIf();
         placesOfWhile();
         asKinds();
         shapesOfWays();
+        shapesBehindStatements();
         shapesThatWrap();
         askedOutside();
         CHECK.end();
@@ -869,6 +871,42 @@ public final class TextBoundaryTest {
         due("nothing is left", x.now(8), 0);
     }
 
+    /** What earlier texts had, whole or with a FAULT of any KIND, is nothing to a later one. */
+    private static void textsOneAfterAnother() {
+        String six = "int u=1;bool v=true;row w=new 1;list x=none;int y=1;int z=2;";
+        String[] texts = {"fun a()int{" + six + "}", "fun b()int{int y=1;return y;print 1;}", "fun a()int{return x;}",
+            "fun c(row r)int{return r[0];}fun d()int{" + six + "while v{}}", "fun a()int{return 1+(", "fun e()row{}",
+            "fun a()int{if true{while true{if true{", "fun f()int{return 1;while true{print 2;}}", "fun a()int{x=true+1;}",
+            "fun a()int{return true;}", "fun a()int{return 1" + "+1".repeat(99) + ";}", "fun g()bool{bool a=1<2;return a;}",
+            "fun a(" + SIX + ")int{}", "fun a(" + SIX + ")int{}fun h()int{}", "", "fun i()list{list l=1:none;return l;}"};
+        for (int first = 0; first < texts.length; first++) {
+            for (int second = 0; second < texts.length; second++) {
+                ProvedMachine x = new ProvedMachine();
+                Check.read(x, texts[first]);
+                Check.read(x, texts[second]);
+                ProvedMachine alone = new ProvedMachine();
+                long places = Check.read(alone, texts[second]);
+                String what = texts[second] + " behind " + texts[first];
+                due("kind of " + what, x.fault(0), alone.fault(0));
+                due("place of " + what, x.fault(1), alone.fault(1));
+                if (places >= 0) {
+                    CHECK.same("code of " + what, shapesOf(x) + Sight.of(x), shapesOf(alone) + Sight.of(alone));
+                    // The third text is read where the first one was.
+                    due("again " + what, Check.read(x, texts[second]), places);
+                    CHECK.same("code of " + what, shapesOf(x) + Sight.of(x), shapesOf(alone) + Sight.of(alone));
+                }
+            }
+        }
+    }
+
+    private static String shapesOf(ProvedMachine x) {
+        StringBuilder shapes = new StringBuilder();
+        for (int place = 0; place < x.all(1); place++) {
+            shapes.append(x.shape(place)).append(' ');
+        }
+        return shapes.toString();
+    }
+
     /** "NAME 3 with its number (in its FUN, as declared from 0 on)", "21 with the NAME's number", "4 with .. its FUN" */
     private static void numbersOfNames() {
         ProvedMachine x = CHECK.with("fun a(" + SIX + ")int{return f;}fun b()int{int z=1;int y=z;y=a(z,y,0,0,0,0);}");
@@ -963,6 +1001,22 @@ public final class TextBoundaryTest {
         // Digits are TYPE and 1, the lowest VALUE the highest digit.
         shapesAre("fun f(int a,bool b,row c,list d)int{}fun m()int{print f(1,true,new 1,none);}", 0, 1,
             0, 1, 7, 36, 38, 194, 1, 0, 1);
+    }
+
+    /** Nothing is left on the STACK by a STATEMENT; an ARGUMENT that is no place leads nowhere. */
+    private static void shapesBehindStatements() {
+        long no = 3125;
+        shapesAre("fun a()int{int x=1;x=2;print 3;}", 0, 1, 0, 1, 0, 1, 0, 1);
+        shapesAre("fun a()int{row r=new 1;r[0]=2;r=r;print 3;}", 0, 1, 3, 0, 3, 16, 81, 0, 3, 0, 1, 0, 1);
+        shapesAre("fun a()int{bool b=true;if b{b=b;}else{b=b;}while b{b=b;}print b;}", 0, 2, 0, 2, 0, 2, 0, 0, 2, 0, 2, 0,
+            2, 0, 0, 2, 0, 1);
+        shapesAre("fun a()int{return 2;print 1;}", 0, 1, no, no, no, no);
+        shapesAre("fun a()int{return 3;print 1;}", 0, 1, no, no, no, no);
+        shapesAre("fun a()int{return 4;print 1;}", 0, 1, no, no, no, no);
+        shapesAre("fun a()list{return none;}", 0, 4, no, no);
+        // 4, 3 and 21 have numbers of FUNS and NAMES, 27 that of a TYPE.
+        shapesAre("fun a()int{int v=1;int w=v;return w;}", 0, 1, 0, 1, 0, 1, no, no);
+        shapesAre("fun a()int{return 1;}fun b()int{return a();}", 0, 1, no, no, 0, 1, no, no);
     }
 
     /** "(a long that wraps, if there are many)" */
